@@ -381,7 +381,9 @@ public final class SnowGuns {
         needHours(m);
         int best = 0;
         int mostReady = -1;
-        for (int units = 0; units <= 990; units += 10) {
+        // what is above the room in the pond does not come in, so that more units lead to nothing else
+        int most = Math.min(990, now.water.settings[CAPACITY] - now.water.pond + 9);
+        for (int units = 0; units <= most && mostReady < now.slopeCount; units += 10) {
             int ready = readyWith(units, m);
             if (ready > mostReady) {
                 best = units;
@@ -617,7 +619,7 @@ public final class SnowGuns {
         /** Takes snow up to the most that lies; answers what is above it. */
         int takeSnow(int units) {
             int all = snow + units;
-            snow = Math.min(all, MOST_SNOW);
+            snow = all < MOST_SNOW ? all : MOST_SNOW;
             return all - snow;
         }
     }
@@ -701,7 +703,8 @@ public final class SnowGuns {
 
         /** Takes water into the pond as far as the capacity allows; answers how much. */
         int takeIn(int units) {
-            int taken = Math.min(units, settings[CAPACITY] - pond);
+            int room = settings[CAPACITY] - pond;
+            int taken = units < room ? units : room;
             pond += taken;
             return taken;
         }
