@@ -12,8 +12,10 @@ public final class ActionTest {
         setSlope(c);
         addSlope(c);
         removeSlope(c);
+        removeBeforeTheFirstGun(c);
         removeEverySlope(c);
         addGun(c);
+        addGunAnew(c);
         bring(c);
         allow(c);
         refusedIsNoAction(c);
@@ -202,6 +204,14 @@ public final class ActionTest {
         c.is("the entry again", x.book(0, 0), 2);
     }
 
+    private static void removeBeforeTheFirstGun(Check c) {
+        SnowGuns x = Check.loaded("P990999000s1999s2102g10w-9");
+        x.removeSlope(0);
+        c.is("its slope's number decreases", x.gun(0, 0), 0);
+        c.is("the gun makes snow there", x.pass(2), 3);
+        c.is("the snow", x.slope(0, 3), 3);
+    }
+
     private static void removeEverySlope(Check c) {
         SnowGuns x = Check.loaded("P200500210s4500s1510w-4");
         c.is("one of two", x.removeSlope(0), 0);
@@ -234,6 +244,23 @@ public final class ActionTest {
         c.is("eight guns", x.about(5), 8);
         c.wrongState("a ninth", x, () -> x.addGun(0, 0));
         wrongGuns(c, x);
+    }
+
+    private static void addGunAnew(Check c) {
+        SnowGuns x = Check.loaded("P990999000s9999g00w-9");
+        x.addGun(0, 3);
+        x.allow(1, false);
+        x.allow(1, true);
+        x.pass(3);
+        x.allow(1, false);
+        while (x.about(5) > 1) {
+            x.undo();
+        }
+        c.is("the second once more", x.addGun(0, 1), 1);
+        int[] want = {0, 1, 1, 0, 0, 0};
+        for (int what = 0; what < want.length; what++) {
+            c.is("the new gun(1, " + what + ")", x.gun(1, what), want[what]);
+        }
     }
 
     private static void wrongGuns(Check c, SnowGuns x) {
@@ -281,6 +308,9 @@ public final class ActionTest {
         c.is("it runs still", x.gun(0, 3), 2);
         x.pass(1);
         c.is("until the next hour", x.gun(0, 3), 0);
+        x.addGun(0, 0);
+        x.undo();
+        c.is("no gun that was taken back", x.allow(0, true), 2);
         for (int g : new int[] {-1, 3, 8, LEAST, GREATEST}) {
             c.wrongIndex("allow(" + g + ")", x, () -> x.allow(g, true));
         }

@@ -23,7 +23,7 @@ public final class ForecastTest {
 
     private static void aheadIsPass(Check c) {
         SnowGuns x = Check.loaded("P300150212s4603s2505s9999g03g11g10g23w-9-5-2+3-8-8");
-        x.pass(3);
+        x.pass(5);
         for (int m = 0; m <= 99; m++) {
             String before = Check.seen(x);
             int[] told = new int[5];
@@ -118,6 +118,9 @@ public final class ForecastTest {
         x.set(0, 26);
         c.is("no water for it but at the first slope", x.bestPlace(0, 2), 0);
         c.is("no place is better in an hour", x.bestPlace(0, 1), 0);
+        SnowGuns y = Check.loaded("P990999000s9999g00w-9");
+        c.is("one place", y.bestPlace(3, 20), 0);
+        c.is("what the gun that was tried made is not counted", y.ahead(3, 3), 6);
     }
 
     private static void bestPlaceRange(Check c) {
@@ -170,6 +173,9 @@ public final class ForecastTest {
         c.is("a capacity of 20", x.missing(2), 20);
         x.set(1, 21);
         c.is("a capacity of 21", x.missing(2), 20);
+        SnowGuns y = Check.loaded("P990000000s1018g00w-9");
+        y.set(1, 21);
+        c.is("21 units into a capacity of 21", y.missing(7), 30);
     }
 
     /** Nozzle 3 uses 12 an hour, and makes 10: 984 units give 810 of snow, but 820 need 996. */

@@ -14,6 +14,7 @@ public final class HourTest {
         melting(c);
         meltingIntoAFullPond(c);
         bookOnlyOfNewlyReady(c);
+        sixSlopes(c);
         oneAction(c);
         c.end("HourTest");
     }
@@ -77,6 +78,11 @@ public final class HourTest {
             x.set(3, row[0]);
             c.is("12 units with a loss of " + row[0], x.pass(2), 12 - row[1]);
             c.is("in the air with a loss of " + row[0], x.account(1), 12 + row[1]);
+        }
+        for (int loss = 0; loss <= 50; loss++) {
+            SnowGuns x = Check.loaded("P990999000s9999g00w-4");
+            x.set(3, loss);
+            c.is("one unit with a loss of " + loss, x.pass(2), loss == 0 ? 1 : 0);
         }
         int[] makes = {0, 1, 2, 3};
         for (int k = 0; k < 4; k++) {
@@ -227,6 +233,25 @@ public final class HourTest {
         y.setSlope(0, 2, 0);
         y.pass(3);
         c.is("none by a target", y.about(11), 0);
+    }
+
+    /** Slopes 0, 2 and 5 have guns; in the third hour 1 unit melts for each unit of area. */
+    private static void sixSlopes(Check c) {
+        SnowGuns x = Check.loaded("P990999000s1503s2500s3501s4500s5500s6501g00g21g52w-9-9+1");
+        x.pass(2);
+        snows(c, x, "made", 3, 0, 6, 0, 0, 9);
+        c.is("entries", x.about(11), 3);
+        for (int j = 0; j < 3; j++) {
+            c.is("entry " + j, x.book(j, 0), new int[] {5, 2, 0}[j]);
+        }
+        x.pass(1);
+        snows(c, x, "melted", 2, 0, 3, 0, 0, 3);
+        c.is("what melted", x.account(3), 10);
+        c.is("what was lost", x.account(2), 1 + 2 + 3);
+        c.is("the first one of six goes", x.removeSlope(1), 0);
+        snows(c, x, "five slopes", 2, 3, 0, 0, 3);
+        x.undo();
+        snows(c, x, "six again", 2, 0, 3, 0, 0, 3);
     }
 
     private static void oneAction(Check c) {

@@ -38,12 +38,30 @@ public final class ReadingTest {
         c.is("ready slopes", x.about(9), 2);
         x.pass(2);
         c.is("no gun runs after a warm hour", x.about(10), 0);
+        runningGuns(c);
         c.is("the weather comes round", x.about(12), -9);
         for (int k = 0; k < 110; k++) {
             x.pass(99);
         }
         c.is("the hour goes on above 9999", x.about(8), 4 + 110 * 99);
         c.is("its temperature", x.about(12), -2);
+    }
+
+    private static void runningGuns(Check c) {
+        SnowGuns x = Check.loaded("P990999000s9999g00w-9");
+        x.pass(1);
+        c.is("one that warms", x.about(10), 0);
+        x.pass(1);
+        c.is("one that runs", x.about(10), 1);
+        x.addGun(0, 0);
+        x.pass(1);
+        c.is("one that runs, one that warms", x.about(10), 1);
+        x.pass(1);
+        c.is("two that run", x.about(10), 2);
+        x.undo();
+        x.undo();
+        x.undo();
+        c.is("one of the one that is left", x.about(10), 1);
     }
 
     private static void colds(Check c) {
@@ -162,6 +180,40 @@ public final class ReadingTest {
         entry(c, x, 1, 0, 59);
         entry(c, x, 19, 0, 5);
         entry(c, x, 20, SnowGuns.NONE, SnowGuns.NONE);
+        String before = Check.seen(x);
+        x.pass(50);
+        entry(c, x, 19, 0, 53);
+        x.undo();
+        c.same("the book after undo", Check.seen(x), before);
+        lastTwentyOfThree(c);
+    }
+
+    /** The first slope is ready after the hours 2, 6, 10, .., the others an hour later. */
+    private static void lastTwentyOfThree(Check c) {
+        SnowGuns x = Check.loaded("P990999000s1003s1006s1005g00g10g20w-9-9-9+9");
+        x.pass(27);
+        c.is("twenty of 21 entries", x.about(11), 20);
+        entry(c, x, 0, 2, 27);
+        entry(c, x, 1, 1, 27);
+        entry(c, x, 2, 0, 26);
+        entry(c, x, 17, 0, 6);
+        entry(c, x, 18, 2, 3);
+        entry(c, x, 19, 1, 3);
+        String before = Check.seen(x);
+        x.bring(1, 0);
+        x.removeSlope(1);
+        c.is("thirteen entries stay", x.about(11), 13);
+        entry(c, x, 0, 1, 27);
+        entry(c, x, 1, 0, 26);
+        entry(c, x, 2, 1, 23);
+        entry(c, x, 11, 0, 6);
+        entry(c, x, 12, 1, 3);
+        entry(c, x, 13, SnowGuns.NONE, SnowGuns.NONE);
+        x.pass(9);
+        x.undo();
+        x.undo();
+        x.undo();
+        c.same("the book of three after undo", Check.seen(x), before);
     }
 
     private static void wet(Check c) {

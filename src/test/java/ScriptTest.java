@@ -202,7 +202,8 @@ public final class ScriptTest {
             most = most * 100000 + 99999;
         }
         for (int n : new int[] {-1, 0, 4, Integer.MIN_VALUE, Integer.MAX_VALUE}) {
-            c.wrongArgument("runScript(" + n + ", ..)", x, () -> x.runScript(n, 70000));
+            c.wrongArgument("runScript(" + n + ", 70000)", x, () -> x.runScript(n, 70000));
+            c.wrongArgument("runScript(" + n + ", 0)", x, () -> x.runScript(n, 0));
         }
     }
 
@@ -225,7 +226,7 @@ public final class ScriptTest {
     private static void simulateIsActions(Check c) {
         String[] texts = {
             "P200500210s4510g01w-4-4-4-4", "P600060120s2305s1920s9102g03g13g11g20w-9-9+2",
-            "P990000900s1001s1100g01g02w-9",
+            "P990000900s1001s1100g01g02w-9", "P990000000s9599s9530g00g00g10g10g00g00w-4",
         };
         long[] seeds = {0, 1, 2, 3, 42, -1, Long.MAX_VALUE, Long.MIN_VALUE, 1234567890123456789L};
         for (String text : texts) {
@@ -233,6 +234,9 @@ public final class ScriptTest {
                 for (int m : new int[] {1, 2, 10, 50, 99}) {
                     SnowGuns x = Check.loaded(text);
                     x.pass(5);
+                    // an empty pond shows each unit that comes by a filling
+                    x.set(1, 0);
+                    x.set(1, 9999);
                     String before = Check.seen(x);
                     int told = x.simulate(seed, m);
                     c.same("simulate changes nothing", Check.seen(x), before);

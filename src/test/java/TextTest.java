@@ -67,6 +67,22 @@ public final class TextTest {
         position(c, HEAD + "s1000w-4", SnowGuns.NONE);
         slopesAndGuns(c);
         weathers(c);
+        leftOut(c);
+    }
+
+    private static void leftOut(Check c) {
+        position(c, "s1000w-4", 0);
+        position(c, "w-4", 0);
+        position(c, "P20s1000w-4", 3);
+        position(c, "P2005002s1000w-4", 8);
+        position(c, "P20050021s1000w-4", 9);
+        position(c, HEAD + "s45w-4", 13);
+        position(c, HEAD + "s1000s45w-4", 18);
+        position(c, HEAD + "s1000sw-4", 16);
+        position(c, HEAD + "s1000gw-4", 16);
+        position(c, HEAD + "s1000g0w-4", 17);
+        position(c, HEAD + "s1000g00g0w-4", 20);
+        position(c, HEAD + "s1000g00", 18);
     }
 
     private static void losses(Check c) {
@@ -147,11 +163,26 @@ public final class TextTest {
         x.save(1);
         c.is("load again", x.load(), 1);
         c.same("what is loaded again", Check.seen(x), fresh);
+        loadForgetsSums(c);
         c.wrongState("no undo behind load", x, x::undo);
         c.wrongState("slot 0 is empty", x, () -> x.restore(0));
         c.wrongState("slot 1 is empty", x, () -> x.restore(1));
         c.is("load is no action", x.fill(1), 0);
         c.is("one undo", x.undo(), 0);
+    }
+
+    private static void loadForgetsSums(Check c) {
+        SnowGuns x = Check.loaded("P990100325s1003s5101g01g10g13w-9-9-9+5");
+        String fresh = Check.seen(x);
+        x.pass(8);
+        c.is("entries in the book", x.about(11) > 0 ? 1 : 0, 1);
+        for (int what = 1; what <= 3; what++) {
+            c.is("account(" + what + ") has grown", x.account(what) > 0 ? 1 : 0, 1);
+        }
+        x.set(1, 5);
+        x.pass(1);
+        c.is("load again", x.load(), 2);
+        c.same("no sums behind load", Check.seen(x), fresh);
     }
 
     private static void loadRefuses(Check c) {
