@@ -53,6 +53,11 @@ public final class ReadingTest {
         c.is("one that warms", x.about(10), 0);
         x.pass(1);
         c.is("one that runs", x.about(10), 1);
+        x.save(0);
+        x.addGun(0, 0);
+        x.pass(2);
+        x.restore(0);
+        c.is("one again behind restore", x.about(10), 1);
         x.addGun(0, 0);
         x.pass(1);
         c.is("one that runs, one that warms", x.about(10), 1);
