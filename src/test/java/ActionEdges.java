@@ -397,6 +397,11 @@ final class ActionEdges {
             c.is("once more", x.allow(g, true), g + 1);
             c.is("it is", x.gun(g, 2), 1);
         }
+        SnowGuns one = new SnowGuns();
+        one.addGun(0, 0);
+        one.undo();
+        c.is("a gun that was taken back is none", one.allow(0, true), 1);
+        c.is("nor then", one.allow(0, false), 0);
         c.says(21, "- `g`: gun");
         c.says(21, "Throws `IndexOutOfBoundsException` if there is no such gun");
         c.numbers("allow", Situations::fresh, 1, (y, g) -> y.allow(g, false));

@@ -158,6 +158,9 @@ final class ForecastEdges {
                 c.is("ahead(" + m + ", " + what + ")", told[what], want[what]);
             }
         }
+        SnowGuns y = Check.loaded("P990999000s9999s9999g00w-9");
+        y.bestPlace(3, 50);
+        c.is("nothing of a gun that another forecast added", y.ahead(3, 3), 6);
         SnowGuns x = new SnowGuns();
         int[] now = {0, 500, 0, 0, 0};
         for (int what = 0; what < 5; what++) {
@@ -378,16 +381,15 @@ final class ForecastEdges {
             x.set(1, row[0]);
             c.is("15 units with a capacity of " + row[0], x.missing(99), row[1]);
         }
-        SnowGuns x = oneAnHour(14);
-        x.set(1, 15);
-        x.fill(6);
-        c.is("9 units into a room of 9", x.missing(99), 10);
-        x = oneAnHour(24);
-        x.set(1, 25);
-        x.fill(6);
-        c.is("19 units into a room of 19", x.missing(99), 20);
-        x.set(1, 24);
-        c.is("19 units into a room of 18", x.missing(99), 0);
+        for (int room = 0; room <= 25; room++) {
+            // just the room is missing; a unit more can't come in
+            SnowGuns x = oneAnHour(39);
+            x.set(1, 40);
+            x.fill(40 - room);
+            c.is(room + " units into a room of " + room, x.missing(99), (room + 9) / 10 * 10);
+            x.setSlope(0, 2, 40);
+            c.is("a unit more into a room of " + room, x.missing(99), 0);
+        }
     }
 
     private static void missingGreatest(Check c) {

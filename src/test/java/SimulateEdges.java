@@ -9,6 +9,7 @@ final class SimulateEdges {
         copy(c);
         numbers(c);
         seeds(c);
+        leastAndGreatest(c);
         temperatures(c);
         entries(c);
         fillings(c);
@@ -90,6 +91,38 @@ final class SimulateEdges {
         }
     }
 
+    /** The seed whose first x has this number r, and these lower 33 bits. */
+    private static long seedOf(int r, long lower) {
+        long factor = 6364136223846793005L;
+        long inverse = factor;
+        for (int i = 0; i < 6; i++) {
+            inverse *= 2 - factor * inverse;
+        }
+        return (((long) r << 33 | lower) - 1442695040888963407L) * inverse;
+    }
+
+    /** Numbers r of 31 bits: 0 and 1, 2147483647, and the greatest ones that are 0 or 1 by 8. */
+    private static void leastAndGreatest(Check c) {
+        c.says(31, "and r = (int) (x >>> 33) is computed.");
+        for (long lower : new long[] {0, 1, (1L << 33) - 1}) {
+            for (int r : new int[] {0, 1, 7, 8, 9, 2147483640, 2147483641, Integer.MAX_VALUE}) {
+                c.is("r of the seed for " + r, number(seedOf(r, lower), 1), r);
+            }
+            SnowGuns x = TermEdges.withSnow(1, 50);
+            c.is("the temperature -9 by 0", x.simulate(seedOf(0, lower), 1), 530);
+            c.is("the temperature -9 by 8", x.simulate(seedOf(8, lower), 1), 530);
+            c.is("12 - 9 by 2147483640", x.simulate(seedOf(2147483640, lower), 1), 470);
+            c.is("nothing by 7", x.simulate(seedOf(7, lower), 1), 510);
+            c.is("nothing by 2147483647", x.simulate(seedOf(Integer.MAX_VALUE, lower), 1), 510);
+            c.is("fill(1) by 1", eightRun().simulate(seedOf(1, lower), 1), 90);
+            c.is("fill(2) by 9", eightRun().simulate(seedOf(9, lower), 1), 100);
+            c.is("fill(56) by 2147483641, of which 8 are used", eightRun().simulate(seedOf(2147483641, lower), 1), 160);
+            c.is("the entry 0 of 24 by 0", atEntry(24, 0, 1).simulate(seedOf(0, lower), 1), 500);
+            c.is("the entry 15 of 24 by 2147483640", atEntry(24, 15, 1).simulate(seedOf(2147483640, lower), 1), 470);
+            c.is("no other one", atEntry(24, 16, 1).simulate(seedOf(2147483640, lower), 1), 490);
+        }
+    }
+
     private static void temperatures(Check c) {
         c.says(31, "If r % 8 is 0, the entry r / 8 % W of the weather becomes r / 256 % 19 - 9;");
         int[] colds = {3, 3, 2, 2, 2, 1, 1, 1, 0, 0};
@@ -101,8 +134,8 @@ final class SimulateEdges {
         }
     }
 
-    /** 50 units of snow on an area of 1, and so many hours without cold, the present one being that of the entry. */
-    private static SnowGuns atEntry(int count, int entry) {
+    /** 50 units of snow on an area of 1, no gun that is allowed, so many hours alike; the present one is the entry's. */
+    private static SnowGuns atEntry(int count, int entry, int wet) {
         SnowGuns x = Check.loaded("P990999000s1099g00w" + "-4".repeat(count));
         x.pass(51);
         x.allow(0, false);
@@ -110,7 +143,7 @@ final class SimulateEdges {
             x.pass(1);
         }
         for (int i = 0; i < count; i++) {
-            x.setWet(i, 0);
+            x.setWet(i, wet);
         }
         return x;
     }
@@ -123,16 +156,24 @@ final class SimulateEdges {
                 long here = find(s -> number(s, 1) % 8 == 0 && number(s, 1) / 8 % count == e && number(s, 1) / 256 % 19 > 9);
                 int degrees = number(here, 1) / 256 % 19 - 9;
                 String what = "the entry " + entry + " of " + count;
-                c.is("now " + what, atEntry(count, entry).simulate(here, 1), 500 - 10 * degrees);
+                c.is("now " + what, atEntry(count, entry, 0).simulate(here, 1), 500 - 10 * degrees);
                 if (count > 1) {
-                    c.is("an hour before " + what, atEntry(count, (entry + count - 1) % count).simulate(here, 1), 500);
-                    c.is("an hour behind " + what, atEntry(count, (entry + 1) % count).simulate(here, 1), 500);
+                    c.is("an hour before " + what, atEntry(count, (entry + count - 1) % count, 0).simulate(here, 1), 500);
+                    c.is("an hour behind " + what, atEntry(count, (entry + 1) % count, 0).simulate(here, 1), 500);
                 }
             }
         }
     }
 
     /** Eight guns run, each with a unit an hour; the pond is empty, so that the snow tells how much was filled in. */
+    private static SnowGuns eightRun() {
+        SnowGuns x = Check.loaded("P990999000s9999" + "g00".repeat(8) + "w-4");
+        x.pass(2);
+        x.set(1, 0);
+        x.set(1, 9999);
+        return x;
+    }
+
     private static void fillings(Check c) {
         c.says(31, "if it is 1, fill(1 + r / 8 % 100) is done.");
         for (int units : new int[] {1, 2, 7, 8, 9, 49, 50, 51, 99, 100}) {
@@ -144,10 +185,7 @@ final class SimulateEdges {
                 }
                 return wanted;
             });
-            SnowGuns x = Check.loaded("P990999000s9999" + "g00".repeat(8) + "w-4");
-            x.pass(2);
-            x.set(1, 0);
-            x.set(1, 9999);
+            SnowGuns x = eightRun();
             c.is("fill(" + units + ")", x.simulate(seed, m), 10 * (8 + units));
             x.set(1, 0);
             c.is("fill(" + units + ") into no room", x.simulate(seed, m), 80);

@@ -24,6 +24,8 @@ final class UndoEdges {
 
     static void run(Check c) {
         everythingButTextAndSlots(c);
+        fullBookComesBack(c);
+        otherCallsAreNone(c);
         alsoIfNothingBecomesDifferent(c);
         undoIsNone(c);
         beforeEachAction(c);
@@ -55,6 +57,41 @@ final class UndoEdges {
         c.is("the text stays", x.clearText(), 47);
         c.is("the slot stays", x.restore(1), 20);
         c.is("the other slot stays", x.restore(0), 2);
+    }
+
+    /** The oldest ones of its 20 entries go, and come back. */
+    private static void fullBookComesBack(Check c) {
+        c.says(0, "the state, which consists of everything but the text and the save slots.");
+        SnowGuns x = Situations.full();
+        c.is("the book is full", x.about(11), 20);
+        String before = Check.seen(x);
+        x.save(0);
+        x.pass(9);
+        c.is("the latest entry is another one", x.book(0, 1) > 48 ? 1 : 0, 1);
+        x.undo();
+        c.same("undo", Check.seen(x), before);
+        x.pass(9);
+        x.restore(0);
+        c.same("restore", Check.seen(x), before);
+    }
+
+    /** Calls of the other sections that change the text or a slot, behind one action. */
+    private static void otherCallsAreNone(Check c) {
+        c.says(0, "The methods in the section \"actions\" change the state,");
+        List<ToIntFunction<SnowGuns>> others = List.of(x -> x.append('P'), x -> x.append(255), SnowGuns::clearText,
+            SnowGuns::errorPosition, x -> x.save(0), x -> x.save(1));
+        for (int i = 0; i < others.size(); i++) {
+            SnowGuns x = Situations.full();
+            x.undo();
+            x.clearText();
+            String before = Check.seen(x).replaceAll("text.*", "");
+            x.pass(2);
+            String behind = Check.seen(x).replaceAll("text.*", "");
+            others.get(i).applyAsInt(x);
+            c.same("the state behind call " + i, Check.seen(x).replaceAll("text.*", ""), behind);
+            c.is("undo behind call " + i, x.undo(), 0);
+            c.same("the state then, call " + i, Check.seen(x).replaceAll("text.*", ""), before);
+        }
     }
 
     private static void alsoIfNothingBecomesDifferent(Check c) {
