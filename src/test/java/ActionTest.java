@@ -1,3 +1,6 @@
+import java.util.List;
+import java.util.function.ToIntFunction;
+
 /** Promises 13 to 22: set, fill, setWet, setSlope, addSlope, removeSlope, addGun, bring, allow, undo. */
 public final class ActionTest {
     private static final int LEAST = Integer.MIN_VALUE;
@@ -332,30 +335,24 @@ public final class ActionTest {
     }
 
     private static void undoEachKind(Check c) {
-        SnowGuns x = threeReady();
-        while (x.undo() > 0) {
-            c.is("more than one state", 1, 0);
-        }
-        x.pass(2);
-        Runnable[] actions = {
-            () -> x.pass(9), () -> x.set(0, 0), () -> x.set(1, 9), () -> x.set(2, 9), () -> x.set(3, 9),
-            () -> x.fill(3), () -> x.setWet(0, 9), () -> x.setSlope(1, 1, 3), () -> x.setSlope(1, 2, 3),
-            () -> x.addSlope(9, 9, 9), () -> x.removeSlope(1), () -> x.addGun(1, 3), () -> x.bring(0, 1),
-            () -> x.allow(0, false),
-        };
-        for (int i = 0; i < actions.length; i++) {
+        List<ToIntFunction<SnowGuns>> actions = List.of(
+            x -> x.pass(9), x -> x.set(0, 0), x -> x.set(1, 9), x -> x.set(2, 9), x -> x.set(3, 9), x -> x.fill(3),
+            x -> x.setWet(0, 9), x -> x.setSlope(1, 1, 3), x -> x.setSlope(1, 2, 3), x -> x.addSlope(9, 9, 9),
+            x -> x.removeSlope(1), x -> x.addGun(1, 3), x -> x.bring(0, 1), x -> x.allow(0, false));
+        for (int i = 0; i < actions.size(); i++) {
+            SnowGuns x = threeReady();
             String before = Check.seen(x);
-            actions[i].run();
+            actions.get(i).applyAsInt(x);
             c.is("action " + i + " changes something", Check.seen(x).equals(before) ? 1 : 0, 0);
             c.is("undo of action " + i, x.undo(), 1);
             c.same("the state after undo of action " + i, Check.seen(x), before);
         }
-        Runnable[] idle = {
-            () -> x.set(0, x.about(0)), () -> x.setWet(0, x.wet(0)), () -> x.setSlope(0, 1, x.slope(0, 1)),
-            () -> x.allow(0, true),
-        };
-        for (int i = 0; i < idle.length; i++) {
-            idle[i].run();
+        List<ToIntFunction<SnowGuns>> idle = List.of(
+            x -> x.set(0, x.about(0)), x -> x.setWet(0, x.wet(0)), x -> x.setSlope(0, 1, x.slope(0, 1)),
+            x -> x.allow(0, true));
+        for (int i = 0; i < idle.size(); i++) {
+            SnowGuns x = threeReady();
+            idle.get(i).applyAsInt(x);
             c.is("without effect, but an action: " + i, x.undo(), 1);
         }
     }

@@ -6,7 +6,7 @@ import java.util.List;
 import java.util.Map;
 import java.util.TreeMap;
 
-/** The document's terms (as section 0) and promises, and which passages of them a test has quoted. */
+/** The document's terms (with its beginning, as section 0) and promises, and which passages a test has quoted. */
 final class Document {
     private static final Path PLACE = Path.of("../shared/DOC.md");
 
@@ -53,7 +53,7 @@ final class Document {
     }
 
     private static int numberOf(String heading) {
-        if (heading.equals("## Terms")) {
+        if (heading.equals("## What it is") || heading.equals("## Terms")) {
             return 0;
         }
         return heading.startsWith("## Promise ") ? Integer.parseInt(heading.replaceAll("\\D+(\\d+):.*", "$1")) : -1;

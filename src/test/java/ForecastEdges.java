@@ -79,7 +79,7 @@ final class ForecastEdges {
         SnowGuns x = Check.loaded("P190080410s2603s3601s9999g03g02g11g10g22g20w-9-4-6+2-8-1");
         x.allow(1, false);
         boolean[] found = new boolean[6];
-        for (int hour = 0; hour < 48; hour++) {
+        for (int hour = 0; hour < 30; hour++) {
             int[] told = new int[6];
             for (int g = 0; g < 6; g++) {
                 told[g] = x.whyNot(g);

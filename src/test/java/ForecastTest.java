@@ -22,9 +22,9 @@ public final class ForecastTest {
     }
 
     private static void aheadIsPass(Check c) {
-        SnowGuns x = Check.loaded("P300150212s4603s2505s9999g03g11g10g23w-9-5-2+3-8-8");
-        x.pass(5);
         for (int m = 0; m <= 99; m++) {
+            SnowGuns x = Check.loaded("P300150212s4603s2505s9999g03g11g10g23w-9-5-2+3-8-8");
+            x.pass(5);
             String before = Check.seen(x);
             int[] told = new int[5];
             for (int what = 0; what < 5; what++) {

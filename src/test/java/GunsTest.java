@@ -82,12 +82,10 @@ public final class GunsTest {
     }
 
     private static void order(Check c, String what, SnowGuns x, int... want) {
-        String before = Check.seen(x);
         for (int i = 0; i < want.length; i++) {
             c.is(what + ": order(" + i + ")", x.order(i), want[i]);
         }
         c.is(what + ": no more", x.order(want.length), SnowGuns.NONE);
-        c.same(what + ": nothing changes", Check.seen(x), before);
     }
 
     private static void orderOfGuns(Check c) {

@@ -5,6 +5,7 @@ final class TermEdges {
 
     static void run(Check c) {
         words(c);
+        manyCalls(c);
         sixSlopes(c);
         areas(c);
         ranks(c);
@@ -32,6 +33,9 @@ final class TermEdges {
     /** What tells of the rest, or heads it, and names no boundary of its own. */
     private static void words(Check c) {
         String[] passages = {
+            "Snowmaking for slopes: wet-bulb temperatures hour by hour, guns with nozzles that start by steps of cold, a pump and "
+                + "a pond that share the water by the needs of slopes, snow that is made and melts, meltwater that comes back, "
+                + "fillings of the pond, a book of slopes that became ready.",
             "It keeps the account of all water, tells why a gun does not run, forecasts, and finds the gun that would "
                 + "help most, the water that is missing and the best hours. Changes can be undone.",
             "SLOPES, GUNS, WATER", "All water and snow is told in whole units (snow as the water in it).", "AN HOUR",
@@ -47,6 +51,29 @@ final class TermEdges {
         for (String passage : passages) {
             c.says(0, passage);
         }
+    }
+
+    private static void manyCalls(Check c) {
+        c.says(0, "An object is used for at most 512 calls after it has been made; what later calls answer is free.");
+        SnowGuns x = new SnowGuns();
+        for (int i = 1; i <= 511; i++) {
+            x.pass(99);
+        }
+        c.is("the 512th call: the hour", x.about(8), 511 * 99);
+        SnowGuns y = new SnowGuns();
+        y.set(1, 9999);
+        for (int i = 0; i < 170; i++) {
+            y.set(1, 0);
+            y.set(1, 9999);
+            c.is("an empty pond is filled", y.fill(9999), 9999);
+        }
+        c.is("the 512th call: what came", y.account(0), 500 + 170 * 9999);
+        SnowGuns z = Check.loaded("P999999900s9099g03w-9-9-9+9");
+        for (int i = 0; i < 480; i++) {
+            z.pass(99);
+        }
+        c.is("the snow that the gun made, 24 in 4 hours", z.gun(0, 4), 480 * 99 / 4 * 24);
+        c.is("all of it melted", z.account(3), 480 * 99 / 4 * 24);
     }
 
     /** So many units of snow lie on the only slope, whose target is 99; the next hour brings one more. */

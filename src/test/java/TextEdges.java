@@ -297,13 +297,13 @@ final class TextEdges {
     private static void loadMost(Check c) {
         c.says(5, "there is no snow, all guns are allowed and cold, the pond is full, the book is empty, the hour and all "
             + "accounts are 0 (but account(0), which is the water in the pond).");
-        SnowGuns x = Check.written("P999999950" + "s9901".repeat(6) + "g53".repeat(8) + "w" + "-9".repeat(20) + "+9");
-        x.load();
+        String text = "P999999950" + "s9901".repeat(6) + "g53".repeat(8) + "w" + "-9".repeat(20) + "+9";
         String slope = " | slope 9 9 1 0 0 0 0";
         String want = "about 99 9999 9 50 6 8 21 9999 0 0 0 0 -9 3" + slope.repeat(5) + " | slope 9 9 1 0 0 0 8"
             + " | gun 5 3 1 0 0 0".repeat(8) + " | accounts 9999 0 0 0 0 0";
-        c.same("the most of all", begin(x), want);
-        c.is("the book", x.book(0, 0), SnowGuns.NONE);
+        c.same("the most of all", begin(Check.loaded(text)), want);
+        c.is("the book", Check.loaded(text).book(0, 0), SnowGuns.NONE);
+        SnowGuns x = Check.loaded(text);
         x.allow(3, false);
         x.allow(7, false);
         x.bring(0, 0);

@@ -62,17 +62,18 @@ final class UndoEdges {
     /** The oldest ones of its 20 entries go, and come back. */
     private static void fullBookComesBack(Check c) {
         c.says(0, "the state, which consists of everything but the text and the save slots.");
+        String before = Check.seen(Situations.full());
         SnowGuns x = Situations.full();
         c.is("the book is full", x.about(11), 20);
-        String before = Check.seen(x);
-        x.save(0);
         x.pass(9);
         c.is("the latest entry is another one", x.book(0, 1) > 48 ? 1 : 0, 1);
         x.undo();
         c.same("undo", Check.seen(x), before);
-        x.pass(9);
-        x.restore(0);
-        c.same("restore", Check.seen(x), before);
+        SnowGuns y = Situations.full();
+        y.save(0);
+        y.pass(9);
+        y.restore(0);
+        c.same("restore", Check.seen(y), before);
     }
 
     /** Calls of the other sections that change the text or a slot, behind one action. */
@@ -81,9 +82,7 @@ final class UndoEdges {
         List<ToIntFunction<SnowGuns>> others = List.of(x -> x.append('P'), x -> x.append(255), SnowGuns::clearText,
             SnowGuns::errorPosition, x -> x.save(0), x -> x.save(1));
         for (int i = 0; i < others.size(); i++) {
-            SnowGuns x = Situations.full();
-            x.undo();
-            x.clearText();
+            SnowGuns x = Check.loaded("P600100325s4510s3799g00g11w-9-5");
             String before = Check.seen(x).replaceAll("text.*", "");
             x.pass(2);
             String behind = Check.seen(x).replaceAll("text.*", "");
@@ -266,7 +265,6 @@ final class UndoEdges {
         c.says(32, "Stores the present state in a save slot.");
         for (int i = 0; i < ACTIONS.size(); i++) {
             SnowGuns x = Situations.used();
-            String before = Check.seen(x);
             x.save(0);
             ACTIONS.get(i).applyAsInt(x);
             String behind = Check.seen(x);
@@ -274,8 +272,12 @@ final class UndoEdges {
             x.pass(2);
             c.is("the newer one", x.restore(1), x.about(8));
             c.same("as it was behind action " + i, Check.seen(x), behind);
-            x.restore(0);
-            c.same("as it was before action " + i, Check.seen(x), before);
+            SnowGuns y = Situations.used();
+            y.save(0);
+            ACTIONS.get(i).applyAsInt(y);
+            y.save(1);
+            y.restore(0);
+            c.same("as it was before action " + i, Check.seen(y), Check.seen(Situations.used()));
         }
         SnowGuns x = new SnowGuns();
         x.save(0);
